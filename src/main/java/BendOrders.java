@@ -44,7 +44,7 @@ public final class BendOrders {
         history = new History();
         text = new Text();
         press = new Press();
-        plan = new Plan(press);
+        plan = new Plan();
     }
 
     // ---- strips
@@ -569,7 +569,7 @@ public final class BendOrders {
     }
 
     /**
-     * The strip on the grid. A flange is straight, so its two end points say all of its points,
+     * The strip on the grid. A flange is straight, so the box around it holds its points and no others,
      * and two flanges (or a flange and a block of the tool) meet just where their boxes do.
      */
     static final class Shape {
@@ -578,14 +578,18 @@ public final class BendOrders {
         private int y;
         private int stepX;
         private int stepY;
-        private final int[] nearX;
-        private final int[] nearY;
+        private final int[] left;
+        private final int[] right;
+        private final int[] bottom;
+        private final int[] top;
         private final int[] farX;
         private final int[] farY;
 
         Shape() {
-            nearX = new int[MOST_FLANGES];
-            nearY = new int[MOST_FLANGES];
+            left = new int[MOST_FLANGES];
+            right = new int[MOST_FLANGES];
+            bottom = new int[MOST_FLANGES];
+            top = new int[MOST_FLANGES];
             farX = new int[MOST_FLANGES];
             farY = new int[MOST_FLANGES];
         }
@@ -599,7 +603,7 @@ public final class BendOrders {
                 draw(flange, state.lengthAt(flange));
             }
             startAtTool(-1);
-            for (int flange = Math.min(bend, flanges - 1); flange >= 0; flange--) {
+            for (int flange = bend; flange >= 0; flange--) {
                 turnAt(flange, bent, state.isUp(flange) == over);
                 draw(flange, state.lengthAt(flange));
             }
@@ -625,69 +629,61 @@ public final class BendOrders {
             if (flange < 0 || flange >= MOST_FLANGES) {
                 return;
             }
-            nearX[flange] = x;
-            nearY[flange] = y;
+            int nearX = x;
+            int nearY = y;
             x += stepX * length;
             y += stepY * length;
+            left[flange] = stepX < 0 ? x : nearX;
+            right[flange] = stepX < 0 ? nearX : x;
+            bottom[flange] = stepY < 0 ? y : nearY;
+            top[flange] = stepY < 0 ? nearY : y;
             farX[flange] = x;
             farY[flange] = y;
         }
 
+        /** Turns the boxes of the left side alone: the far ends are told of the strip as it lies. */
         void swingUp(int bend) {
-            for (int flange = 0; flange <= bend && flange < flanges && flange < MOST_FLANGES; flange++) {
-                int oldNearX = nearX[flange];
-                nearX[flange] = nearY[flange];
-                nearY[flange] = -oldNearX;
-                int oldFarX = farX[flange];
-                farX[flange] = farY[flange];
-                farY[flange] = -oldFarX;
+            for (int flange = 0; flange <= bend && flange < MOST_FLANGES; flange++) {
+                int oldLeft = left[flange];
+                int oldRight = right[flange];
+                left[flange] = bottom[flange];
+                right[flange] = top[flange];
+                bottom[flange] = -oldRight;
+                top[flange] = -oldLeft;
             }
         }
 
         int farEndX(int flange) {
-            return flange >= 0 && flange < farX.length ? farX[flange] : 0;
+            return flange >= 0 && flange < MOST_FLANGES ? farX[flange] : 0;
         }
 
         int farEndY(int flange) {
-            return flange >= 0 && flange < farY.length ? farY[flange] : 0;
+            return flange >= 0 && flange < MOST_FLANGES ? farY[flange] : 0;
         }
 
-        /** The flanges that have a point in a block, as bits; a block whose top is below its bottom has no point. */
-        int flangesIn(int left, int right, int bottom, int top) {
+        /** The flanges that have a point in a block, as bits; a block whose last row is below its first has no point. */
+        int flangesIn(int firstX, int lastX, int firstY, int lastY) {
             int found = 0;
-            for (int flange = 0; flange < flanges; flange++) {
-                if (leftOf(flange) <= right && rightOf(flange) >= left
-                    && bottomOf(flange) <= top && topOf(flange) >= bottom && bottom <= top) {
+            for (int flange = 0; flange < flanges && flange < MOST_FLANGES; flange++) {
+                boolean beside = right[flange] < firstX || left[flange] > lastX;
+                boolean above = bottom[flange] > lastY;
+                boolean below = top[flange] < firstY;
+                if (!beside && !above && !below && firstY <= lastY) {
                     found |= 1 << flange;
                 }
             }
             return found;
         }
 
+        /** Neighbours always share their corner; a bit two places up or more is a flange that is no neighbour. */
         boolean strikesItself() {
-            for (int flange = 0; flange < flanges; flange++) {
-                int met = flangesIn(leftOf(flange), rightOf(flange), bottomOf(flange), topOf(flange));
+            for (int flange = 0; flange < flanges && flange < MOST_FLANGES; flange++) {
+                int met = flangesIn(left[flange], right[flange], bottom[flange], top[flange]);
                 if (met >> (flange + 2) != 0) {
                     return true;
                 }
             }
             return false;
-        }
-
-        private int leftOf(int flange) {
-            return flange >= 0 && flange < MOST_FLANGES ? Math.min(nearX[flange], farX[flange]) : 0;
-        }
-
-        private int rightOf(int flange) {
-            return flange >= 0 && flange < MOST_FLANGES ? Math.max(nearX[flange], farX[flange]) : 0;
-        }
-
-        private int bottomOf(int flange) {
-            return flange >= 0 && flange < MOST_FLANGES ? Math.min(nearY[flange], farY[flange]) : 0;
-        }
-
-        private int topOf(int flange) {
-            return flange >= 0 && flange < MOST_FLANGES ? Math.max(nearY[flange], farY[flange]) : 0;
         }
     }
 
@@ -759,8 +755,8 @@ public final class BendOrders {
         private final int[] steps;
         private final boolean[] reached;
 
-        Plan(Press tool) {
-            press = tool;
+        Plan() {
+            press = new Press();
             planned = new State();
             made = false;
             ways = new int[1 << MOST_BENDS];
@@ -785,7 +781,8 @@ public final class BendOrders {
             int leading = 0;
             for (int bend = 0; bend < planned.bends; bend++) {
                 int further = waysFrom(done | 1 << bend);
-                if (isMissing(done, bend) && further > 0 && canBeDone(done, bend)) {
+                boolean over = !planned.isUp(bend);
+                if (further > 0 && press.reason(planned, bend, done, over) == CAN_BE_DONE) {
                     sum += further;
                     leading |= 1 << bend;
                 }
@@ -794,15 +791,6 @@ public final class BendOrders {
                 ways[done] = sum;
                 steps[done] = leading;
             }
-        }
-
-        private static boolean isMissing(int done, int bend) {
-            return (done >> bend & 1) == 0;
-        }
-
-        private boolean canBeDone(int done, int bend) {
-            boolean over = !planned.isUp(bend);
-            return press.reason(planned, bend, done, over) == CAN_BE_DONE;
         }
 
         int waysFrom(int done) {

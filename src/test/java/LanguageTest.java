@@ -7,7 +7,9 @@ import java.nio.file.Files;
 import java.nio.file.Path;
 import java.util.Arrays;
 import java.util.List;
+import java.util.Map;
 import java.util.Set;
+import java.util.TreeMap;
 import java.util.TreeSet;
 import java.util.regex.Matcher;
 import java.util.regex.Pattern;
@@ -24,6 +26,7 @@ public final class LanguageTest {
         hasNoForbiddenWord();
         makesRowsInConstructorsAlone();
         hasShortMethods();
+        callsAreNotDeep();
         due.close();
     }
 
@@ -154,6 +157,43 @@ public final class LanguageTest {
                 due.holds("made in a constructor: " + line.trim(), Character.isUpperCase(method.charAt(0)));
             }
         }
+    }
+
+    /** By names alone: methods of one name are taken as one, so that this counts rather too deep. */
+    private static void callsAreNotDeep() throws IOException {
+        Map<String, StringBuilder> bodies = new TreeMap<>();
+        StringBuilder body = new StringBuilder();
+        for (String line : source().split("\n")) {
+            Matcher head = Pattern.compile("^ {4,8}(?:[\\w\\[\\]]+ )*(\\w+)\\([^)]*\\) \\{$").matcher(line);
+            if (head.find()) {
+                body = bodies.computeIfAbsent(head.group(1), unused -> new StringBuilder());
+            } else {
+                body.append(line).append('\n');
+            }
+        }
+        due.holds("the methods are seen: " + bodies.keySet(), bodies.size() > 60);
+        int deepest = 0;
+        for (String name : bodies.keySet()) {
+            int deep = deepness(name, bodies, 1);
+            deepest = Math.max(deepest, deep);
+            due.holds("at most 8 deep: " + name + " " + deep, deep <= 8);
+        }
+        System.out.println("the deepest calls: " + deepest);
+    }
+
+    private static int deepness(String name, Map<String, StringBuilder> bodies, int open) {
+        due.holds("no recursion by way of " + name, open < 20);
+        if (open >= 20 || !bodies.containsKey(name)) {
+            return 1;
+        }
+        int deepest = 0;
+        Matcher call = Pattern.compile("\\b(\\w+)\\(").matcher(bodies.get(name));
+        while (call.find()) {
+            if (!Set.of("if", "for", "switch", "while", "return").contains(call.group(1))) {
+                deepest = Math.max(deepest, deepness(call.group(1), bodies, open + 1));
+            }
+        }
+        return deepest + 1;
     }
 
     private static void hasShortMethods() throws IOException {

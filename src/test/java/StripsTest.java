@@ -12,6 +12,7 @@ public final class StripsTest {
         setsLength();
         refusesLength();
         setsUp();
+        countsItsOwnUps();
         refusesUp();
         setsSettings();
         refusesSettings();
@@ -166,6 +167,19 @@ public final class StripsTest {
         due.is("laid over: setUp(1, false)", press.setUp(1, false), -1005);
         due.is("laid over: setUp(1, true)", press.setUp(1, true), 1);
         due.is("laid over: ofBend(1, 0)", press.ofBend(1, 0), 1);
+    }
+
+    /** The up bends of a longer strip are not to be counted with those of a shorter one. */
+    private static void countsItsOwnUps() {
+        BendOrders press = Due.strip("5u5u5u5u5u5u5u5");
+        Due.type(press, "5u5u5");
+        press.takeStrip();
+        due.is("setUp(0, false) of a shorter strip", press.setUp(0, false), 1);
+        due.is("setUp(1, false) of a shorter strip", press.setUp(1, false), 0);
+        press.undo();
+        press.undo();
+        press.undo();
+        due.is("setUp(6, false) of the longer strip", press.setUp(6, false), 6);
     }
 
     private static void refusesUp() {

@@ -10,6 +10,7 @@ public final class ToldTest {
         strikesUpperWithTheLeftSide();
         strikesLower();
         strikesBelowLower();
+        strikesLowerWithTheLeftSide();
         strikesUpperAheadOfLower();
         strikesLowerAheadOfItself();
         strikesItself();
@@ -149,6 +150,13 @@ public final class ToldTest {
         reason("a flange swung against its top", press, 1, 4);
         due.is("strikers(1)", press.strikers(1), 1);
 
+        press = Due.strip("1u7u5");
+        press.bend(0);
+        press.set(0, 7);
+        reason("a flange that ends at 1", press, 1, 4);
+        press.set(1, 0);
+        reason("a flange that ends at 1, with a narrow tool", press, 1, 4);
+
         press = Due.strip("4d1u5");
         press.layOver();
         press.bend(0);
@@ -182,6 +190,25 @@ public final class ToldTest {
             press.layOver();
             reason("a flange " + depth + " below", press, 0, depth <= 3 ? 5 : 0);
         }
+    }
+
+    private static void strikesLowerWithTheLeftSide() {
+        for (int depth = 3; depth <= 4; depth++) {
+            BendOrders press = Due.strip("5d" + depth + "d1u5");
+            press.layOver();
+            due.is("laid over: bend(1)", press.bend(1), 1);
+            due.is("laid over: bend(0)", press.bend(0), 2);
+            press.layOver();
+            reason("flat alone, a flange " + depth + " below", press, 2, depth == 3 ? 5 : 0);
+        }
+        BendOrders press = Due.strip("3u5u5u2u4");
+        press.set(0, 1);
+        due.is("bend(2)", press.bend(2), 1);
+        due.is("bend(1)", press.bend(1), 2);
+        due.is("bend(0)", press.bend(0), 3);
+        reason("behind bending alone", press, 3, 5);
+        press.flatten(0);
+        reason("with the flange 0 straight on", press, 3, 0);
     }
 
     private static void strikesUpperAheadOfLower() {
@@ -444,6 +471,15 @@ public final class ToldTest {
         Due.type(press, "9u9u9");
         press.takeStrip();
         due.is("takeStrip(): orders()", press.orders(), 2);
+        Due.type(press, "9u9u9u9");
+        press.takeStrip();
+        due.is("a closed square: count(3)", press.count(3), 0);
+        press.setLength(3, 8);
+        due.is("open at the flange 3: count(3)", press.count(3), 1);
+        press.setLength(3, 9);
+        due.is("closed again: count(3)", press.count(3), 0);
+        press.setLength(0, 8);
+        due.is("open at the flange 0: count(3)", press.count(3), 1);
     }
 
     private static void waits() {
@@ -469,6 +505,15 @@ public final class ToldTest {
         due.is("no order: mustWait(0, 1)", press.mustWait(0, 1), -1004);
         due.is("no order: mustWait(1, 1)", press.mustWait(1, 1), -1002);
         due.is("no order: mustWait(1, 3)", press.mustWait(1, 3), -1001);
+
+        press = Due.strip("5u3d3u5");
+        due.is("one order of three: orders()", press.orders(), 1);
+        for (int bend = 0; bend < 3; bend++) {
+            for (int other = 0; other < 3; other++) {
+                int want = bend == other ? -1002 : bend > other ? 1 : 0;
+                due.is("one order of three: mustWait(" + bend + ", " + other + ")", press.mustWait(bend, other), want);
+            }
+        }
 
         press = Due.strip("4u3u9u9");
         due.is("three bends: orders()", press.orders(), 3);
