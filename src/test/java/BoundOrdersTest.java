@@ -13,6 +13,8 @@ public final class BoundOrdersTest {
     public static void main(String[] arguments) {
         ordersAreAllRowsThatCanBeDone();
         ordersFromEachSetOfDoneBends();
+        ordersAreOfTheStripAsItIsNow();
+        ordersAreOfTheToolAsItIsNow();
         thereAreAtMost5040();
         thereIsOneIfAllAreDone();
         thereIsNone();
@@ -133,6 +135,75 @@ public final class BoundOrdersTest {
         }
     }
 
+    private static void asksOrders(BendOrders press) {
+        press.orders();
+        press.order(0);
+        press.count(5);
+    }
+
+    private static void tellsTheSame(String what, BendOrders press, BendOrders fresh) {
+        due.holds(what, Script.toldBut(press, "count(12)").equals(Script.toldBut(fresh, "count(12)")));
+    }
+
+    /** What was asked of another strip, or of the strip as it was, is not told of the one that is there now. */
+    private static void ordersAreOfTheStripAsItIsNow() {
+        // beginnings of one another, the same bends with other lengths, the same lengths with other bends
+        String[] strips = {"9u9", "9d9", "9u9d9", "9u9u9", "9u9d9u9", "9u9u9u9", "8u8u8u1", "8u8u8u8", "4u3u4", "4u3u9u9",
+            "4u3d4", "4d3u4", "9u3u4", "9d9d9d9"};
+        for (String strip : strips) {
+            for (String other : strips) {
+                BendOrders press = Script.made("=" + other);
+                asksOrders(press);
+                Due.type(press, strip);
+                press.takeStrip();
+                tellsTheSame(strip + " behind " + other, press, Script.made("=" + strip));
+                press.undo();
+                Due.type(press, other);
+                tellsTheSame(other + " behind undo()", press, Script.made("=" + other));
+            }
+        }
+        for (String strip : new String[] {"4u3u9u9", "9u9u9u9", "5u5"}) {
+            for (int place = 0; place < strip.length(); place++) {
+                changesOnePlace(strip, place);
+            }
+        }
+    }
+
+    private static void changesOnePlace(String strip, int place) {
+        for (char sign : (place % 2 == 0 ? "123456789" : "ud").toCharArray()) {
+            BendOrders press = Script.made("=" + strip + " k");
+            asksOrders(press);
+            StringBuilder changed = new StringBuilder(strip);
+            changed.setCharAt(place, sign);
+            if (place % 2 == 0) {
+                press.setLength(place / 2, sign - '0');
+            } else {
+                press.setUp(place / 2, sign == 'u');
+            }
+            tellsTheSame(strip + " changed to " + changed, press, Script.made("=" + changed));
+            press.restore();
+            tellsTheSame(strip + " restored behind " + changed, press, Script.made("=" + strip));
+        }
+    }
+
+    private static void ordersAreOfTheToolAsItIsNow() {
+        int[] least = {1, 0, 0, 0};
+        int[] most = {12, 3, 9, 9};
+        for (String strip : new String[] {"4u3u4", "5u5", "9u9u9", "5u2u2u2"}) {
+            for (int which = 0; which < 4; which++) {
+                for (int value = least[which]; value <= most[which]; value++) {
+                    String set = "s" + which + "=" + value;
+                    BendOrders press = Script.made("=" + strip + " k");
+                    asksOrders(press);
+                    press.set(which, value);
+                    tellsTheSame(strip + " with " + set, press, Script.made("=" + strip + " " + set));
+                    press.restore();
+                    tellsTheSame(strip + " restored behind " + set, press, Script.made("=" + strip));
+                }
+            }
+        }
+    }
+
     /** Seven bends in all orders, and no bend that waits. */
     private static void thereAreAtMost5040() {
         int[] counts = {5040, 720, 120, 24, 6, 2, 1, 1};
@@ -215,12 +286,12 @@ public final class BoundOrdersTest {
                     int want = asked < 1 || asked > 7 ? -1002 : done == bends ? -1005 : then;
                     String call = strip + ", " + done + " done: follow(" + asked + ")";
                     due.is(call, press.follow(asked), want);
-                    due.is(call + ": count(1)", press.count(1), want < 0 ? done : then);
-                    due.is(call + ": count(7)", press.count(7), want < 0 ? done : then);
-                    due.is(call + ": count(2)", press.count(2), (want < 0 ? done : then) % 2 == 0 && press.count(1) > 0 ? 1 : 0);
+                    int bent = want < 0 ? done : then;
+                    due.is(call + ": count(1)", press.count(1), bent);
+                    due.is(call + ": count(7)", press.count(7), bent);
+                    due.is(call + ": count(2)", press.count(2), bent > 0 && bent % 2 == 0 ? 1 : 0);
                     for (int bend = 0; bend < bends; bend++) {
-                        int isDone = bend < (want < 0 ? done : then) ? 1 : 0;
-                        due.is(call + ": ofBend(" + bend + ", 1)", press.ofBend(bend, 1), isDone);
+                        due.is(call + ": ofBend(" + bend + ", 1)", press.ofBend(bend, 1), bend < bent ? 1 : 0);
                     }
                 }
             }
@@ -365,6 +436,13 @@ public final class BoundOrdersTest {
         due.is("without the one that is not held", Script.made("=9u9u1 s2=2").count(4), 1);
         due.is("with what ends no order", Script.made("=4u3u4").count(4), 3);
         due.is("without what strikes", Script.made("=4u3u4 b0").count(4), 0);
+        // a bend behind the last one would be held by nothing, lie flat and so be up when it is laid over
+        for (int bends = 1; bends <= 7; bends++) {
+            String strip = "9d9d9d9d9d9d9d9".substring(0, 2 * bends + 1);
+            due.is(strip + ", held by nothing", Script.made("=" + strip + " s2=0 o").count(4), (1 << bends) - 1);
+            due.is(strip + " behind a longer one", Script.made("=9d9d9d9d9d9d9d9 =" + strip + " s2=0 o").count(4),
+                (1 << bends) - 1);
+        }
     }
 
     private static void countsAreOf0To13() {

@@ -99,7 +99,8 @@ public final class BoundShapeTest {
         ends("1 is done", Script.made(strip + " b1 L0"), 0, new int[] {-4, 3, 3, 3, 3}, new int[] {0, 0, -2, -3, -9});
         ends("2 is done", Script.made(strip + " b2"), 0, new int[] {-4, 3, 5, 5, 5}, new int[] {0, 0, 0, 1, 7});
         ends("3 is done", Script.made(strip + " b3"), 0, new int[] {-4, 3, 5, 6, 6}, new int[] {0, 0, 0, 0, 6});
-        ends("1 and 3 are done", Script.made(strip + " b1 b3"), 0, new int[] {-4, 3, 3, 3, 9}, new int[] {0, 0, -2, -3, -3});
+        ends("1 and 3 are done", Script.made(strip + " b1 b3"), 0, new int[] {-4, 3, 3, 3, 9},
+            new int[] {0, 0, -2, -3, -3});
         ends("0 is done", Script.made(strip + " b0"), 3, new int[] {-6, -6, -3, -1, 6}, new int[] {4, 0, 0, 0, 0});
         ends("1 is done", Script.made(strip + " b1 L0"), 3, new int[] {-3, -3, -3, -1, 6}, new int[] {-7, -3, 0, 0, 0});
         ends("2 is done", Script.made(strip + " b2"), 3, new int[] {-1, -1, -1, -1, 6}, new int[] {9, 5, 2, 0, 0});

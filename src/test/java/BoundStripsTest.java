@@ -229,6 +229,9 @@ public final class BoundStripsTest {
             due.is("setUp(" + bend + ", false)", press.setUp(bend, false), 6 - bend);
             due.is("ofBend(" + bend + ", 0)", press.ofBend(bend, 0), 0);
         }
+        press = Script.made("=1u1u1u1u1u1u1u1 =1u1u1");
+        due.is("behind a longer strip: setUp(0, false)", press.setUp(0, false), 1);
+        due.is("behind a longer strip: setUp(1, false)", press.setUp(1, false), 0);
     }
 
     private static void eachSettingHasItsRange() {

@@ -32,7 +32,8 @@ public final class BoundTextsTest {
     }
 
     private static void anyCharacterMayBeTyped() {
-        char[] edges = {0, 1, 9, 31, 32, '0', '1', '9', ':', 'd', 'u', 126, 127, 128, 255, 256, 32767, 32768, 65534, 65535};
+        char[] edges = {0, 1, 9, 31, 32, '0', '1', '9', ':', 'd', 'u', 126, 127, 128, 255, 256, 32767, 32768, 65534,
+            65535};
         BendOrders press = new BendOrders();
         for (int i = 0; i < edges.length; i++) {
             due.is("type(" + (int) edges[i] + ")", press.type(edges[i]), i + 1);

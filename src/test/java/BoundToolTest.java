@@ -257,6 +257,12 @@ public final class BoundToolTest {
         asks("the flanges ahead do not hold", press, 1, 3, 0);
         press.set(2, 1);
         asks("the flange behind does", press, 1, 0, 0);
+        press = Script.made("=9u9u9u9 =9u1u1 s2=3");
+        asks("flanges of the strip that was do not", press, 0, 3, 0);
+        press.set(2, 2);
+        asks("those of the strip do", press, 0, 0, 0);
+        press.set(2, 1);
+        asks("and the last one", press, 1, 0, 0);
     }
 
     /** "The reasons ... are asked in this order": each two of them that can stand against one bend. */
@@ -294,8 +300,8 @@ public final class BoundToolTest {
 
     /** "4 for the reason if the strip lay over (the other way than now)": it is that of the strip when it is laid so. */
     private static void theReasonOfTheOtherWay() {
-        String[] made = {"=5u5", "=5d5", "=3u5d5 b1", "=2u2u6 b1", LOW + "=4d2d1u2 b0 b1", "=9d5 s2=6", LOW + "=2u2u2u2 b2 b1",
-            LOW + "=6d5u6u6 b1 b2 L0", "=9u9d9u9 b1"};
+        String[] made = {"=5u5", "=5d5", "=3u5d5 b1", "=2u2u6 b1", LOW + "=4d2d1u2 b0 b1", "=9d5 s2=6",
+            LOW + "=2u2u2u2 b2 b1", LOW + "=6d5u6u6 b1 b2 L0", "=9u9d9u9 b1"};
         int[] met = new int[7];
         for (String steps : made) {
             BendOrders press = Script.made(steps);

@@ -7,17 +7,18 @@ final class Script {
     }
 
     /**
-     * Makes an object and does the steps, which are parted by blanks, on it. None of them may be refused:
-     * =4u3u4 the strip is taken, s0=12 a setting, l0=7 a length, v0 a bend is turned up or down, o laid over, b1 a bend
-     * is done (and the strip laid over ahead of it where that is needed), f1 flattened, n2 followed, k kept,
-     * r restored, z undone, txyz typed, c the text emptied, L0 or L1 laid so.
+     * Makes an object and does the steps, which are parted by blanks, on it. None of them may be refused, but a setting
+     * that is so already: =4u3u4 the strip is taken, s0=12 a setting, l0=7 a length, v0 a bend is turned up or down,
+     * o laid over, b1 a bend is done (and the strip laid over ahead of it where that is needed), f1 flattened,
+     * n2 followed, k kept, r restored, z undone, txyz typed, c the text emptied, L0 or L1 laid so.
      */
     static BendOrders made(String steps) {
         BendOrders press = new BendOrders();
         for (String step : steps.split(" ")) {
             if (!step.isEmpty()) {
                 int answer = done(press, step);
-                if (answer <= -1001) {
+                boolean isSoAlready = step.charAt(0) == 's' && answer == -1005;
+                if (answer <= -1001 && !isSoAlready) {
                     throw new IllegalStateException(step + " of '" + steps + "' answered " + answer);
                 }
             }
